@@ -489,10 +489,19 @@ public final class TideBook {
                 case 1:
                     return Integer.bitCount(rang);
                 case 2:
-                    return rang == 0 ? -1 : Integer.numberOfTrailingZeros(rang);
+                    return firstRang();
                 default:
                     return -1;
             }
+        }
+
+        private int firstRang() {
+            for (int place = 0; place < PLACES; place++) {
+                if ((rang >> place & 1) != 0) {
+                    return place;
+                }
+            }
+            return -1;
         }
     }
 
@@ -670,7 +679,7 @@ public final class TideBook {
             double here = x.at(place);
             double last = x.at(place - 1);
             if (!Numbers.isVoid(Numbers.DIFFERENCE, here, last)) {
-                out.put(place, Numbers.ofTwo(Numbers.DIFFERENCE, here, last, narrow));
+                out.put(place, Numbers.sum(here, -last, narrow));
             }
         }
 
@@ -692,7 +701,7 @@ public final class TideBook {
         static double twoTo(int power) {
             double answer = 1;
             double factor = power < 0 ? 0.5 : 2;
-            int left = Math.abs(power);
+            int left = power < 0 ? -power : power;
             for (int bit = 0; bit < 11; bit++) {
                 if ((left >> bit & 1) != 0) {
                     answer *= factor;
@@ -730,9 +739,9 @@ public final class TideBook {
             return hasMinus(x) == minus ? x : -x;
         }
 
-        /** Less, and -0 is less than 0. */
+        /** Less, and -0 is less than 0: so are the infinite numbers that come of dividing by them. */
         static boolean isBelow(double x, double y) {
-            return x < y || (x == y && hasMinus(x) && !hasMinus(y));
+            return x < y || (x == 0 && y == 0 && 1 / x < 1 / y);
         }
 
         static double lesser(double x, double y) {
@@ -809,7 +818,7 @@ public final class TideBook {
             }
         }
 
-        private static double sum(double x, double y, boolean narrow) {
+        static double sum(double x, double y, boolean narrow) {
             return narrow ? (float) x + (float) y : x + y;
         }
 
@@ -821,7 +830,7 @@ public final class TideBook {
             return narrow ? (float) x / (float) y : x / y;
         }
 
-        /** From 2^52 on, every number is a whole one (and too great, later, for a long). */
+        /** From 2^52 on every number is a whole one; below it fits into a long. */
         private static boolean isSurelyWhole(double x) {
             return x >= 0x1p52 || x <= -0x1p52;
         }
@@ -834,26 +843,34 @@ public final class TideBook {
             if (whole > x) {
                 whole -= 1;
             }
-            return whole == 0 ? withSign(whole, hasMinus(x)) : whole;
+            return whole == 0 ? zeroLike(x) : whole;
         }
 
         private static double nearest(double x) {
             if (isSurelyWhole(x)) {
                 return x;
             }
-            double size = withSign(x, false);
+            double size = x < 0 ? -x : x;
             long whole = (long) size;
             double rest = size - whole;
             if (rest > 0.5 || (rest == 0.5 && (whole & 1) != 0)) {
                 whole++;
             }
-            return withSign(whole, hasMinus(x));
+            if (whole == 0) {
+                return zeroLike(x);
+            }
+            return x < 0 ? -whole : whole;
+        }
+
+        /** 0 with the sign of x, which is not infinite. */
+        private static double zeroLike(double x) {
+            return x * 0;
         }
 
         /** Long division of whole numbers, ten digits at a time, as 53 + 10 fit into a long. */
         private static double remainder(double x, double y) {
-            double size = withSign(x, false);
-            double divisor = withSign(y, false);
+            double size = x < 0 ? -x : x;
+            double divisor = y < 0 ? -y : y;
             if (size < divisor) {
                 return x;
             }
@@ -868,11 +885,12 @@ public final class TideBook {
             for (int left = Bits.widePower(sizeBits) - power; left > 0; left -= 10) {
                 rest = (rest << Math.min(left, 10)) % divisorDigits;
             }
-            return withSign(rest * twoTo(power), hasMinus(x));
+            double answer = rest * twoTo(power);
+            return x < 0 ? -answer : answer;
         }
     }
 
-    /** The bits that numbers are written with. */
+    /** The bits that numbers are written with: the sign, the exponent, the digits behind the point. */
     private static final class Bits {
         private static final int WIDE_DIGITS = 52;
         private static final int NARROW_DIGITS = 23;
@@ -880,22 +898,21 @@ public final class TideBook {
         private static final int NARROW_BIAS = 127;
 
         static long of(double x, boolean narrow) {
-            long behind = behindSign(Numbers.withSign(x, false), narrow);
-            if (!Numbers.hasMinus(x)) {
-                return behind;
-            }
-            return behind | (narrow ? -1L << 31 : -1L << 63);
+            long sign = narrow ? -1L << 31 : -1L << 63;
+            long behind = Numbers.isInfinite(x) ? ofInfinite(narrow) : behindSign(Numbers.withSign(x, false), narrow);
+            return Numbers.hasMinus(x) ? behind | sign : behind;
         }
 
-        /** All bits but the sign, of a number that has no -. */
+        private static long ofInfinite(boolean narrow) {
+            return narrow ? (2L * NARROW_BIAS + 1) << NARROW_DIGITS : (2L * WIDE_BIAS + 1) << WIDE_DIGITS;
+        }
+
+        /** All bits but the sign, of a number that has no - and is not infinite. */
         static long behindSign(double x, boolean narrow) {
-            int digits = narrow ? NARROW_DIGITS : WIDE_DIGITS;
-            int bias = narrow ? NARROW_BIAS : WIDE_BIAS;
-            if (Numbers.isInfinite(x)) {
-                return (2L * bias + 1) << digits;
-            }
-            if (x < Numbers.twoTo(1 - bias)) {
-                return (long) (x * Numbers.twoTo(bias - 1) * Numbers.twoTo(digits));
+            double leastNormal = narrow ? 0x1p-126 : 0x1p-1022;
+            double point = narrow ? 0x1p23 : 0x1p52;
+            if (x < leastNormal) {
+                return (long) (x / leastNormal * point);
             }
             double rest = x;
             int power = 0;
@@ -911,8 +928,9 @@ public final class TideBook {
                 rest *= 0.5;
                 power++;
             }
-            long behindPoint = (long) ((rest - 1) * Numbers.twoTo(digits));
-            return ((long) (power + bias) << digits) + behindPoint;
+            long exponent = power + (narrow ? NARROW_BIAS : WIDE_BIAS);
+            long behindPoint = (long) ((rest - 1) * point);
+            return (exponent << (narrow ? NARROW_DIGITS : WIDE_DIGITS)) + behindPoint;
         }
 
         /** The whole number m of m * 2^widePower. */
@@ -923,7 +941,7 @@ public final class TideBook {
 
         static int widePower(long behindSign) {
             int exponent = (int) (behindSign >> WIDE_DIGITS);
-            return Math.max(exponent, 1) - WIDE_BIAS - WIDE_DIGITS;
+            return (exponent == 0 ? 1 : exponent) - WIDE_BIAS - WIDE_DIGITS;
         }
     }
 }
