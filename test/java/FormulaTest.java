@@ -15,6 +15,7 @@ public final class FormulaTest {
         products();
         quotients();
         remainders();
+        tinyRemainders();
         choices();
         signs();
         kept();
@@ -116,6 +117,28 @@ public final class FormulaTest {
                 row(0.0, BIG % 3, -BIG % 7, 0x1p900 % 1000003, TINY));
         narrow("far apart", 13, row(FBIG, -FBIG, 0x1p100), row(FTINY, 7, 1000003), 0,
                 row(0.0, -FBIG % 7, 0x1p100 % 1000003));
+    }
+
+    /** Wide numbers below the least normal one: 2^-1074 times 7, -7, 12 and 9 by 2, 3, 8 and 5. */
+    private static void tinyRemainders() {
+        int[] sizes = {7, -7, 12, 9, 1 << 30};
+        int[] divisors = {2, 3, 8, 5, 1000003};
+        TideBook book = new TideBook();
+        book.constant(0, 1, -74);
+        for (int place = 0; place < sizes.length; place++) {
+            book.set(0, place, sizes[place], -1000);
+            book.set(1, place, divisors[place], -1000);
+            book.set(2, place, sizes[place], -960);
+        }
+        book.formula(3, 11, 0, 16, 0);
+        book.formula(4, 11, 1, 16, 0);
+        book.formula(5, 13, 3, 4, 0);
+        book.formula(6, 13, 2, 4, 0);
+        for (int place = 0; place < sizes.length; place++) {
+            check.due("tiny remainder", book.reading(5, place), sizes[place] % divisors[place] * TINY);
+            double size = Math.scalb((double) sizes[place], -960);
+            check.due("of a tiny one", book.reading(6, place), size % (divisors[place] * TINY));
+        }
     }
 
     private static void choices() {

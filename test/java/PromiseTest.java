@@ -31,6 +31,7 @@ public final class PromiseTest {
         told();
         staysUpToDate();
         manyChanges();
+        nothingButChanges();
         check.end();
     }
 
@@ -644,5 +645,17 @@ public final class PromiseTest {
         }
         due("back", book.back(), -1);
         due("all blank", book.told(3, 2), 16);
+    }
+
+    private static void nothingButChanges() {
+        TideBook book = new TideBook();
+        for (int k = 1; k <= 512; k++) {
+            due("change " + k, book.constant(k % 8, k, 0), 1);
+        }
+        TideBook other = new TideBook();
+        for (int k = 1; k <= 511; k++) {
+            due("change " + k, other.width(0, k % 2 == 1), 1);
+        }
+        due("told", other.told(12, 0), 511);
     }
 }
