@@ -1,11 +1,29 @@
 /** Counts and prints the answers that are not the ones due. */
 final class Check {
     private final String title;
+    private String sentence = "";
+    private int sentences = 0;
     private int looked = 0;
+    private int lookedBefore = 0;
     private int wrong = 0;
 
     Check(String title) {
         this.title = title;
+    }
+
+    /** The answers from here on are due by these words of the document. */
+    void says(String words) {
+        endSentence();
+        sentence = words;
+        sentences++;
+        lookedBefore = looked;
+    }
+
+    private void endSentence() {
+        if (!sentence.isEmpty() && looked == lookedBefore) {
+            wrong++;
+            System.out.println(title + ": no answer was looked at for: " + sentence);
+        }
     }
 
     void due(String call, long got, long want) {
@@ -22,12 +40,17 @@ final class Check {
                 String.valueOf(got), String.valueOf(want));
     }
 
+    void due(String call, String got, String want) {
+        tell(call, got.equals(want), got, want);
+    }
+
     private void tell(String call, boolean right, String got, String want) {
         looked++;
         if (!right) {
             wrong++;
             if (wrong <= 40) {
-                System.out.println(title + ": " + call + " answered " + got + ", due is " + want);
+                System.out.println(title + ": " + call + " answered " + got + ", due is " + want
+                        + (sentence.isEmpty() ? "" : " by: " + sentence));
             }
         }
     }
@@ -37,7 +60,9 @@ final class Check {
     }
 
     void end() {
-        System.out.println(title + ": " + looked + " answers looked at, " + wrong + " not as due");
+        endSentence();
+        String of = sentences == 0 ? "" : " for " + sentences + " sentences";
+        System.out.println(title + ": " + looked + " answers looked at" + of + ", " + wrong + " not as due");
         if (wrong != 0 || looked == 0) {
             System.exit(1);
         }
