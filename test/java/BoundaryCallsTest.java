@@ -1,3 +1,7 @@
+import java.util.ArrayList;
+import java.util.Arrays;
+import java.util.List;
+
 /** The boundary cases of CHANGES, ALARMS and the promises 1 to 18, sentence by sentence. */
 public final class BoundaryCallsTest {
     private static final Check check = new Check("BoundaryCallsTest");
@@ -63,7 +67,7 @@ public final class BoundaryCallsTest {
             due("set", book.set(at[0], at[1], 100 * at[0] + at[1] + 1, 0), 1);
         }
         double[] first = new double[16];
-        java.util.Arrays.fill(first, B);
+        Arrays.fill(first, B);
         double[] last = first.clone();
         first[0] = 1;
         first[15] = 16;
@@ -423,6 +427,11 @@ public final class BoundaryCallsTest {
             due("set " + end[0] + ", " + end[1], book.set(11, 15, end[0], end[1]), 1);
             check.due("reading", book.reading(11, 15), Math.scalb((double) end[0], end[1]));
         }
+        for (int e = -1000; e <= 900; e++) {
+            book = e % 100 == 0 ? new TideBook() : book;
+            due("set 3, " + e, book.set(0, 0, 3, e) + book.constant(0, -3, e), 2);
+            check.due("reading", book.reading(0, 0), Math.scalb(3.0, e));
+        }
         check.says("0, and nothing is done: there is no such column or place,");
         for (int column : NO_COLUMN) {
             refused("set, no column", 0, rich -> rich.set(column, 0, 1, 0));
@@ -767,8 +776,8 @@ public final class BoundaryCallsTest {
     }
 
     /** Columns and places of which one, or both, are not there. */
-    private static java.util.List<int[]> noneSuch() {
-        java.util.List<int[]> list = new java.util.ArrayList<>();
+    private static List<int[]> noneSuch() {
+        List<int[]> list = new ArrayList<>();
         for (int column : NO_COLUMN) {
             for (int place : new int[] {0, 15, -1, 16}) {
                 list.add(new int[] {column, place});

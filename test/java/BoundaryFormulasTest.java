@@ -49,14 +49,6 @@ public final class BoundaryFormulasTest {
         return numbers;
     }
 
-    private static double[] minus(double[] row) {
-        double[] other = new double[row.length];
-        for (int k = 0; k < row.length; k++) {
-            other[k] = -row[k];
-        }
-        return other;
-    }
-
     private static String seen(TideBook book, int column) {
         StringBuilder text = new StringBuilder();
         for (int place = 0; place < 16; place++) {
@@ -239,7 +231,7 @@ public final class BoundaryFormulasTest {
                 row(0.0, 0.0, INF, INF, B, FTINY, FTINY, FBIG, FBIG, 1, 1, B, 0x1p-126, 2.5, 2.5, 7));
         rows.wide("ends", 1, row(-BIG, -TINY), NONE, 0, row(BIG, TINY));
         check.says("8 x with the other sign.");
-        rows.both("with the other sign", 8, x, NONE, 0, minus(x));
+        rows.both("with the other sign", 8, x, NONE, 0, Rows.minus(x));
         rows.wide("ends", 8, row(-BIG, TINY), NONE, 0, row(BIG, -TINY));
     }
 
@@ -264,11 +256,11 @@ public final class BoundaryFormulasTest {
         double[] near = row(0x1p52, 0x1p52 - 2, 0x1p52, 0x1p52 + 1, 0x1p53, 0x1p62, 0x1p63, 0x1p64, BIG,
                 0.0, 1, 0x1p51, 0x1p51 + 2, 0x1p31, 1, 0.0);
         rows.wide("not above", 2, far, NONE, 0, below);
-        rows.wide("not above, -", 2, minus(far), NONE, 0, minus(above));
+        rows.wide("not above, -", 2, Rows.minus(far), NONE, 0, Rows.minus(above));
         rows.wide("not below", 3, far, NONE, 0, above);
-        rows.wide("not below, -", 3, minus(far), NONE, 0, minus(below));
+        rows.wide("not below, -", 3, Rows.minus(far), NONE, 0, Rows.minus(below));
         rows.wide("nearest", 4, far, NONE, 0, near);
-        rows.wide("nearest, -", 4, minus(far), NONE, 0, minus(near));
+        rows.wide("nearest, -", 4, Rows.minus(far), NONE, 0, Rows.minus(near));
     }
 
     private static void wholeSigns() {

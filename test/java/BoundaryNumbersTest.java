@@ -82,17 +82,9 @@ public final class BoundaryNumbersTest {
         rows.look(what + ", width", book, Rows.X, true, narrow);
     }
 
-    private static double[] minus(double[] row) {
-        double[] other = new double[row.length];
-        for (int k = 0; k < row.length; k++) {
-            other[k] = -row[k];
-        }
-        return other;
-    }
-
     private static void broughtOfEitherSign(String what, double[] wide, double[] narrow) {
         brought(what, wide, narrow);
-        brought(what + ", -", minus(wide), minus(narrow));
+        brought(what + ", -", Rows.minus(wide), Rows.minus(narrow));
     }
 
     private static void nearest() {

@@ -1,6 +1,14 @@
+import java.io.IOException;
+import java.io.UncheckedIOException;
+import java.nio.file.Files;
+import java.nio.file.Path;
+
 /** Counts and prints the answers that are not the ones due. */
 final class Check {
+    private static final Path DOCUMENT = Path.of("../shared/DOC.md");
+
     private final String title;
+    private String document = "";
     private String sentence = "";
     private int sentences = 0;
     private int looked = 0;
@@ -14,9 +22,24 @@ final class Check {
     /** The answers from here on are due by these words of the document. */
     void says(String words) {
         endSentence();
+        if (!document().contains(words)) {
+            wrong++;
+            System.out.println(title + ": the document does not say: " + words);
+        }
         sentence = words;
         sentences++;
         lookedBefore = looked;
+    }
+
+    private String document() {
+        if (document.isEmpty()) {
+            try {
+                document = Files.readString(DOCUMENT).replaceAll("\\s+", " ");
+            } catch (IOException e) {
+                throw new UncheckedIOException(e);
+            }
+        }
+        return document;
     }
 
     private void endSentence() {

@@ -1,3 +1,5 @@
+import java.util.Arrays;
+
 /** Puts rows of any numbers into columns and looks at them; NaN stands for BLANK, as does a row's end. */
 final class Rows {
     static final int X = 4;
@@ -16,14 +18,18 @@ final class Rows {
         this.check = check;
     }
 
-    static double[] row(double... numbers) {
-        return numbers;
-    }
-
     static double[] same(double number) {
         double[] row = new double[16];
-        java.util.Arrays.fill(row, number);
+        Arrays.fill(row, number);
         return row;
+    }
+
+    static double[] minus(double[] row) {
+        double[] other = new double[row.length];
+        for (int k = 0; k < row.length; k++) {
+            other[k] = -row[k];
+        }
+        return other;
     }
 
     private static double at(double[] row, int place) {
